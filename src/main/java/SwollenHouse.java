@@ -375,10 +375,10 @@ public final class SwollenHouse {
         }
         int open = now.openDoors();
         int best = open;
+        // The sets come from the least on, so of equal ones the first stays.
         for (int set = 0; set < 1 << DOORS_MOST; set++) {
-            boolean fewer = Integer.bitCount(set) < Integer.bitCount(best)
-                || Integer.bitCount(set) == Integer.bitCount(best) && set < best;
-            if (fewer && (set & ~open) == 0 && !plan.isJoined(room, other, open & ~set)) {
+            boolean fewer = Integer.bitCount(set) < Integer.bitCount(best) && (set & ~open) == 0;
+            if (fewer && !plan.isJoined(room, other, open & ~set)) {
                 best = set;
             }
         }
@@ -633,7 +633,6 @@ public final class SwollenHouse {
 
         void rewind() {
             next = 0;
-            fault = 0;
             advance();
         }
 
@@ -881,7 +880,7 @@ public final class SwollenHouse {
                 return tape.refuse(TOLD_ALREADY);
             }
             tape.advance();
-            return readTerm(plan.law, LOWEST, 0) && tape.takeSign(';');
+            return readTerm(tape, plan.law, LOWEST, 0) && tape.takeSign(';');
         }
 
         private boolean isNewName(Plan plan) {
@@ -916,21 +915,21 @@ public final class SwollenHouse {
         }
 
         /** Levels from the loosest: and or, then < =, then + -, then *, then the PART. */
-        private boolean readTerm(Law law, int level, int nested) {
+        private static boolean readTerm(Tape tape, Law law, int level, int nested) {
             if (level >= PART) {
-                return readPart(law, nested);
+                return readPart(tape, law, nested);
             }
-            if (!readTerm(law, level + 1, nested)) {
+            if (!readTerm(tape, law, level + 1, nested)) {
                 return false;
             }
             int joinsMost = level == COMPARING ? 1 : TAPE_MOST;
             for (int i = 0; i < joinsMost; i++) {
-                int join = joinOn(level);
+                int join = joinOn(tape, level);
                 if (join == 0) {
                     break;
                 }
                 tape.advance();
-                if (!readTerm(law, level + 1, nested)) {
+                if (!readTerm(tape, law, level + 1, nested)) {
                     return false;
                 }
                 law.put(join);
@@ -939,7 +938,7 @@ public final class SwollenHouse {
         }
 
         /** 0 if the token joins nothing on that level. */
-        private int joinOn(int level) {
+        private static int joinOn(Tape tape, int level) {
             if (level == LOWEST) {
                 return tape.isWord(Tape.AND) ? Law.AND : tape.isWord(Tape.OR) ? Law.OR : 0;
             }
@@ -952,10 +951,10 @@ public final class SwollenHouse {
             return tape.isSign('+') ? Law.PLUS : tape.isSign('-') ? Law.MINUS : 0;
         }
 
-        private boolean readPart(Law law, int nested) {
+        private static boolean readPart(Tape tape, Law law, int nested) {
             boolean opens = tape.isSign('(');
             boolean denies = tape.isWord(Tape.NOT);
-            int fact = factTold();
+            int fact = factTold(tape);
             if (!opens && !denies && fact == 0 && tape.kind != Tape.NUMBER) {
                 return tape.refuse(CANT_STAND);
             }
@@ -965,10 +964,10 @@ public final class SwollenHouse {
             int number = (int) tape.value;
             tape.advance();
             if (opens) {
-                return readTerm(law, LOWEST, nested + 1) && tape.takeSign(')');
+                return readTerm(tape, law, LOWEST, nested + 1) && tape.takeSign(')');
             }
             if (denies) {
-                if (!readPart(law, nested + 1)) {
+                if (!readPart(tape, law, nested + 1)) {
                     return false;
                 }
                 law.put(Law.NOT);
@@ -979,7 +978,7 @@ public final class SwollenHouse {
         }
 
         /** 0 if the token is no fact. */
-        private int factTold() {
+        private static int factTold(Tape tape) {
             if (tape.isWord(Tape.WET)) {
                 return Law.WET;
             }
@@ -1172,12 +1171,12 @@ public final class SwollenHouse {
             law.length = 0;
         }
 
+        /** But for the rooms' names, which only its reading needs. */
         void copyFrom(Plan other) {
             rooms = other.rooms;
             doors = other.doors;
             persons = other.persons;
             damps = other.damps;
-            System.arraycopy(other.roomName, 0, roomName, 0, ROOMS_MOST);
             System.arraycopy(other.personName, 0, personName, 0, PERSONS_MOST);
             System.arraycopy(other.personStart, 0, personStart, 0, PERSONS_MOST);
             System.arraycopy(other.first, 0, first, 0, DOORS_MOST);
@@ -1304,7 +1303,11 @@ public final class SwollenHouse {
         int roomsReached(int room, int open) {
             int reached = 1 << room;
             for (int i = 1; i < rooms; i++) {
-                reached = oneDoorOn(reached, open);
+                int next = oneDoorOn(reached, open);
+                if (next == reached) {
+                    break;
+                }
+                reached = next;
             }
             return reached;
         }
@@ -1792,8 +1795,7 @@ public final class SwollenHouse {
         final Plan plan;
         final Outlook outlook;
         final int[] row = new int[PLANINGS_MOST];
-        /** Doors that could be planed so often, and those that would be open then. */
-        final int[] planable = new int[PLANINGS_MOST + 1];
+        /** By how often each is planed, the doors that are open behind the days. */
         final int[] openBy = new int[PLANINGS_MOST + 1];
 
         Planer(State now, Outlook outlook) {
@@ -1808,7 +1810,7 @@ public final class SwollenHouse {
                 lookAhead(i, days);
             }
             for (int i = 0; i <= PLANINGS_MOST; i++) {
-                if (findRow(0, i, 0)) {
+                if (findRow(i)) {
                     return i;
                 }
             }
@@ -1816,33 +1818,49 @@ public final class SwollenHouse {
         }
 
         private void lookAhead(int planings, int days) {
-            planable[planings] = 0;
             openBy[planings] = 0;
             for (int door = 0; door < plan.doors; door++) {
                 int gap = now.gap[door] + planings;
                 int far = outlook.swollenBehind(door, gap, days, Outlook.AS_TOLD);
-                if (planings == 0 || gap <= GAP_PLANED_MOST) {
-                    planable[planings] |= 1 << door;
-                }
                 if (far <= gap || now.hasWedge(door)) {
                     openBy[planings] |= 1 << door;
                 }
             }
         }
 
-        /** Fills the row from a place on, the least doors first; no door below the one ahead of it. */
-        private boolean findRow(int filled, int size, int leastDoor) {
-            if (filled >= size || filled >= PLANINGS_MOST) {
-                return now.isAllTogether(openByRow(size));
+        /** The rows of one size are numbers whose digits are doors, so they come in their order. */
+        private boolean findRow(int size) {
+            int rows = 1;
+            for (int i = 0; i < size; i++) {
+                rows *= plan.doors;
             }
-            for (int door = leastDoor; door < plan.doors; door++) {
-                row[filled] = door;
-                boolean can = (planable[timesInRow(door, filled + 1)] >> door & 1) != 0;
-                if (can && findRow(filled + 1, size, door)) {
+            for (int i = 0; i < rows; i++) {
+                writeRow(i, size);
+                if (canBePlaned(size) && now.isAllTogether(openByRow(size))) {
                     return true;
                 }
             }
             return false;
+        }
+
+        private void writeRow(int number, int size) {
+            int left = number;
+            for (int i = Math.min(size, PLANINGS_MOST) - 1; i >= 0 && plan.doors > 0; i--) {
+                row[i] = left % plan.doors;
+                left /= plan.doors;
+            }
+        }
+
+        /** A row that falls has come in its rising order already. */
+        private boolean canBePlaned(int size) {
+            for (int i = 0; i < size && i < PLANINGS_MOST; i++) {
+                int door = row[i];
+                boolean falls = i > 0 && row[i - 1] > door;
+                if (falls || now.gap[door] + timesInRow(door, size) > GAP_PLANED_MOST) {
+                    return false;
+                }
+            }
+            return true;
         }
 
         private int timesInRow(int door, int size) {

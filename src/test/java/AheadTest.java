@@ -203,6 +203,7 @@ public final class AheadTest {
         CHECK.due("30", x.planed(30, -1), -2);
         SwollenHouse y = CHECK.told("room a;room b;door a b pine gap 0;person p in a;damp 9;");
         row(y, 30);
+        CHECK.due("31", y.planed(31, -1), -2);
         SwollenHouse z = CHECK.told("room a;room b;person p in a;person q in b;");
         CHECK.due("no doors", z.planed(0, -1), -2);
     }
@@ -239,5 +240,11 @@ public final class AheadTest {
             y.plane(0);
         }
         row(y, 4, 0, 0, 0);
+        SwollenHouse z = CHECK.told("room a;room b;door a b pine gap 12;person p in a;person q in b;damp 9;swells 7;");
+        for (int i = 0; i < 8; i++) {
+            z.plane(0);
+        }
+        row(z, 2);
+        CHECK.due("21 needs one: none can be", z.planed(3, -1), -2);
     }
 }

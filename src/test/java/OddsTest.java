@@ -153,10 +153,18 @@ public final class OddsTest {
             CHECK.due("swollen by seed " + seed, x.years(seed, 1, 2), 2);
             x.day();
             CHECK.due("planed or forced by " + seed, x.years(seed, 1, 1), 2);
+            CHECK.due("forced by " + seed, forcedYears().years(seed, 1, 1), first[0] == 2 ? 0 : 1);
             SwollenHouse empty = CHECK.told("room a;room b;door a b lime gap 0;damp 9;");
             CHECK.due("no persons, no more draws", empty.years(seed, 2, 1),
                 stuckOfEmpty(draws(seed, 5, 1, 5), draws(seed, 5, 5)));
         }
+    }
+
+    /** Wet on one day only, by 2: a forcing opens the door, a planing does not. */
+    private static SwollenHouse forcedYears() {
+        SwollenHouse x = CHECK.told("room a;room b;door a b oak gap 0;damp 9 5;swells 2;");
+        x.day();
+        return x;
     }
 
     /** Behind two days a door of gap 0 is swollen 2: two planings open it, or one and a forcing don't. */

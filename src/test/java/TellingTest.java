@@ -50,6 +50,7 @@ public final class TellingTest {
         CHECK.told("damp1 2 3;");
         CHECK.told("swells 1and 1or wet<2;");
         CHECK.told("room abcdefgh ;");
+        CHECK.told("room azaz ;");
         CHECK.fault("room abcdefghi ;", 1, 5);
         CHECK.told(TWO + "door a b oak gap 0012;");
         CHECK.fault(TWO + "door a b oak gap 00012;", 1, 31);

@@ -86,6 +86,7 @@ public final class TodayTest {
             CHECK.due("company " + other, x.company(other), -1);
         }
         CHECK.due("in one room", CHECK.told("room a;person p in a;person q in a;").company(0), 2);
+        CHECK.due("all alone", CHECK.told("room a;room b;person p in a;person q in b;").alone(), 3);
     }
 
     private static void bride() {
@@ -164,6 +165,9 @@ public final class TodayTest {
         CHECK.due("5 more does not", x.rattles(), 4);
         x.plane(1);
         CHECK.due("planed", x.rattles(), 6);
+        x.plane(0);
+        x.plane(0);
+        CHECK.due("all", x.rattles(), 7);
     }
 
     private static void worst() {
