@@ -52,6 +52,7 @@ public final class SwollenHouse {
     private final Tape tape;
     private final HouseReader houseReader;
     private final DaysReader daysReader;
+    private final int[] lines;
     private final State now;
     private final State trial;
     private final History history;
@@ -59,6 +60,7 @@ public final class SwollenHouse {
     private final Mark[] marks;
     private final Outlook outlook;
     private final Planer planer;
+    private int lineCount;
     private long drawn;
 
     public SwollenHouse() {
@@ -67,6 +69,7 @@ public final class SwollenHouse {
         tape = new Tape();
         houseReader = new HouseReader(tape);
         daysReader = new DaysReader(tape);
+        lines = new int[LINES_MOST];
         now = new State(plan);
         trial = new State(plan);
         history = new History(plan);
@@ -100,7 +103,7 @@ public final class SwollenHouse {
 
     private void startAnew() {
         now.begin();
-        now.lineCount = 0;
+        lineCount = 0;
         history.size = 0;
         rumours.felt = 0;
         rumours.said = 0;
@@ -112,9 +115,10 @@ public final class SwollenHouse {
     public int days() {
         int fault = daysReader.read(plan);
         tape.length = 0;
+        // What is told is not done: the history holds deeds alone, and no mark holds the DAYS.
         if (fault == 0) {
-            history.keep(now);
-            now.takeLines(daysReader.lines, daysReader.count);
+            lineCount = daysReader.count;
+            System.arraycopy(daysReader.lines, 0, lines, 0, LINES_MOST);
         }
         return fault;
     }
@@ -151,7 +155,7 @@ public final class SwollenHouse {
             case 5: return now.stuckDoors();
             case 6: return now.wedges;
             case 7: return now.swollenTogether();
-            case 8: return now.lineCount;
+            case 8: return lineCount;
             case 9: return rumours.felt;
             case 10: return rumours.said;
             case 11: return history.size;
@@ -231,10 +235,9 @@ public final class SwollenHouse {
         }
         int impossible = NONE;
         int shutting = NONE;
-        trial.copyFrom(now);
         trial.begin();
-        for (int i = 0; i < trial.lineCount && i < LINES_MOST; i++) {
-            boolean could = trial.followLine(trial.lines[i]);
+        for (int i = 0; i < lineCount && i < LINES_MOST; i++) {
+            boolean could = trial.followLine(lines[i]);
             if (!could && impossible == NONE) {
                 impossible = i;
             }
@@ -1317,16 +1320,14 @@ public final class SwollenHouse {
         }
     }
 
-    /** All that can be undone: the doors, the people, the day, and the DAYS that were told. */
+    /** All that can be undone: the doors, the people, the day. */
     private static final class State {
         final Plan plan;
         int day;
         int wedges;
-        int lineCount;
         final int[] gap = new int[DOORS_MOST];
         final int[] swollen = new int[DOORS_MOST];
         final int[] place = new int[PERSONS_MOST];
-        final int[] lines = new int[LINES_MOST];
 
         State(Plan plan) {
             this.plan = plan;
@@ -1338,15 +1339,9 @@ public final class SwollenHouse {
             System.arraycopy(other.gap, 0, gap, 0, DOORS_MOST);
             System.arraycopy(other.swollen, 0, swollen, 0, DOORS_MOST);
             System.arraycopy(other.place, 0, place, 0, PERSONS_MOST);
-            takeLines(other.lines, other.lineCount);
         }
 
-        void takeLines(int[] told, int count) {
-            lineCount = count;
-            System.arraycopy(told, 0, lines, 0, LINES_MOST);
-        }
-
-        /** All is as the house was told; the DAYS stay. */
+        /** All is as the house was told. */
         void begin() {
             day = 0;
             wedges = 0;

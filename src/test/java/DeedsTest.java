@@ -17,6 +17,9 @@ public final class DeedsTest {
         forcings();
         undoing();
         undoingSixteen();
+        toldDaysAreNotUndone();
+        marksHoldNoDays();
+        sixteenDeedsStayBehindDays();
         marks();
         counts();
         CHECK.end();
@@ -243,11 +246,10 @@ public final class DeedsTest {
         x.feel(0, 1, true);
         x.say(0, 1);
         x.walk(0, 2);
-        CHECK.due("what can't be is not done", x.count(11), 6);
-        CHECK.due("undo days", x.undo(), true);
-        CHECK.due("lines", x.count(8), 0);
+        CHECK.due("what can't be is not done, nor what is told", x.count(11), 5);
         CHECK.due("forced still", x.door(1, 3), 1);
         CHECK.due("undo force", x.undo(), true);
+        CHECK.due("lines stay", x.count(8), 2);
         CHECK.due("gap", x.door(1, 3), 0);
         CHECK.due("day still", x.count(3), 1);
         CHECK.due("undo day", x.undo(), true);
@@ -264,6 +266,51 @@ public final class DeedsTest {
         CHECK.due("no more", x.undo(), false);
         CHECK.due("felt stays", x.count(9), 1);
         CHECK.due("said stays", x.count(10), 1);
+        CHECK.due("lines stay", x.count(8), 2);
+    }
+
+    private static void toldDaysAreNotUndone() {
+        SwollenHouse x = new SwollenHouse();
+        CHECK.due("empty days", x.days(), 0);
+        CHECK.due("nothing was done", x.undo(), false);
+        SwollenHouse y = CHECK.told(HOUSE);
+        CHECK.due("days", Check.days(y, "plane 0;day;wedge 7;"), 0);
+        CHECK.due("none can be undone", y.count(11), 0);
+        CHECK.due("nothing to undo", y.undo(), false);
+        CHECK.due("lines", y.count(8), 3);
+        y.walk(0, 0);
+        CHECK.due("other days", Check.days(y, "wedge 7;"), 0);
+        CHECK.due("the walk", y.count(11), 1);
+        CHECK.due("undo the walk", y.undo(), true);
+        CHECK.due("place", y.person(0), 0);
+        CHECK.due("the other days are judged", y.judged(0), 0);
+        CHECK.due("lines", y.count(8), 1);
+        CHECK.due("days with a fault", Check.days(y, "day;toads"), 1 + 16 * 4);
+        CHECK.due("nothing to undo", y.undo(), false);
+        CHECK.due("lines", y.count(8), 1);
+    }
+
+    private static void marksHoldNoDays() {
+        SwollenHouse x = CHECK.told(HOUSE);
+        CHECK.due("laid without days", x.mark(0, false), true);
+        CHECK.due("days", Check.days(x, "day;wedge 7;"), 0);
+        CHECK.due("back", x.mark(0, true), true);
+        CHECK.due("lines stay", x.count(8), 2);
+        CHECK.due("judged", x.judged(0), 1);
+    }
+
+    private static void sixteenDeedsStayBehindDays() {
+        SwollenHouse x = CHECK.told(PAIR + "0;");
+        for (int i = 0; i < 16; i++) {
+            x.plane(0);
+            CHECK.due("days", Check.days(x, "day;"), 0);
+        }
+        CHECK.due("deeds", x.count(11), 16);
+        for (int gap = 15; gap >= 0; gap--) {
+            CHECK.due("undone", x.undo(), true);
+            CHECK.due("gap", x.door(0, 3), gap);
+        }
+        CHECK.due("no more", x.undo(), false);
     }
 
     private static void undoingSixteen() {
@@ -292,7 +339,7 @@ public final class DeedsTest {
         x.walk(0, 0);
         x.feel(0, 2, true);
         CHECK.due("laid", x.mark(3, false), true);
-        CHECK.due("laying is not done", x.count(11), 2);
+        CHECK.due("laying is not done", x.count(11), 1);
         x.day();
         x.plane(0);
         x.wedge(2);
@@ -304,7 +351,7 @@ public final class DeedsTest {
         Check.feed(x, "room");
         for (int i = 0; i < 2; i++) {
             CHECK.due("back", x.mark(3, true), true);
-            int[] due = {3, 3, 2, 0, 9, 0, 0, 0, 1, 1, 0, 0, 4};
+            int[] due = {3, 3, 2, 0, 9, 0, 0, 0, 2, 1, 0, 0, 4};
             for (int what = 0; what < due.length; what++) {
                 CHECK.due("count(" + what + ")", x.count(what), due[what]);
             }
@@ -337,7 +384,7 @@ public final class DeedsTest {
         x.feel(0, 1, true);
         CHECK.due("days", Check.days(x, "plane 0;plane 1;day;"), 0);
         Check.feed(x, "toads");
-        int[] due = {3, 3, 2, 1, 0, 2, 5, 3, 3, 1, 2, 4, 5};
+        int[] due = {3, 3, 2, 1, 0, 2, 5, 3, 3, 1, 2, 3, 5};
         for (int what = 0; what < due.length; what++) {
             CHECK.due("count(" + what + ")", x.count(what), due[what]);
         }

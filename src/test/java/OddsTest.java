@@ -102,7 +102,7 @@ public final class OddsTest {
                 CHECK.due("the same again", x.years(seed, 99, what), x.years(seed, 99, what));
             }
         }
-        int[] due = {2, 1, 1, 1, 9, 1, 0, 1, 1, 0, 0, 2, 0};
+        int[] due = {2, 1, 1, 1, 9, 1, 0, 1, 1, 0, 0, 1, 0};
         for (int what = 0; what < due.length; what++) {
             CHECK.due("all is as ahead: count(" + what + ")", x.count(what), due[what]);
         }

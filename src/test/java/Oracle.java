@@ -60,7 +60,6 @@ final class Oracle {
         List<Integer> swollen = new ArrayList<>();
         Set<Integer> wedges = new HashSet<>();
         List<Integer> places = new ArrayList<>();
-        List<Line> lines = new ArrayList<>();
 
         Present copy() {
             Present p = new Present();
@@ -69,7 +68,6 @@ final class Oracle {
             p.swollen = new ArrayList<>(swollen);
             p.wedges = new HashSet<>(wedges);
             p.places = new ArrayList<>(places);
-            p.lines = new ArrayList<>(lines);
             return p;
         }
     }
@@ -78,6 +76,7 @@ final class Oracle {
 
     private final StringBuilder tape = new StringBuilder();
     private House house = new House();
+    private List<Line> daysTold = List.of();
     private Present now = new Present();
     private final ArrayDeque<Present> past = new ArrayDeque<>();
     private List<Felt> felt = new ArrayList<>();
@@ -190,7 +189,8 @@ final class Oracle {
             return f.number;
         }
         house = told;
-        now = begin(List.of());
+        now = begin();
+        daysTold = List.of();
         past.clear();
         felt.clear();
         said.clear();
@@ -198,14 +198,13 @@ final class Oracle {
         return 0;
     }
 
-    private Present begin(List<Line> lines) {
+    private Present begin() {
         Present p = new Present();
         p.gaps = new ArrayList<>(house.gaps);
         for (int i = 0; i < house.doors.size(); i++) {
             p.swollen.add(0);
         }
         p.places = new ArrayList<>(house.starts);
-        p.lines = new ArrayList<>(lines);
         return p;
     }
 
@@ -396,8 +395,7 @@ final class Oracle {
         } catch (Fault f) {
             return f.number;
         }
-        keep();
-        now.lines = lines;
+        daysTold = lines;
         return 0;
     }
 
@@ -623,11 +621,11 @@ final class Oracle {
     }
 
     int judged(int what) {
-        Present p = begin(now.lines);
+        Present p = begin();
         int cant = -1;
         int shut = -1;
-        for (int i = 0; i < now.lines.size(); i++) {
-            Line l = now.lines.get(i);
+        for (int i = 0; i < daysTold.size(); i++) {
+            Line l = daysTold.get(i);
             if (canDo(p, l)) {
                 p = doneBy(p, l);
                 if (shut < 0 && shutOf(p) != 0) {
@@ -668,7 +666,7 @@ final class Oracle {
     int count(int what) {
         int together = now.swollen.stream().mapToInt(i -> i).sum();
         int[] answers = {house.rooms.size(), doors(), house.persons.size(), now.day, dampOf(now.day),
-            bits(stuck(now)), bits(now.wedges), together, now.lines.size(), felt.size(), said.size(),
+            bits(stuck(now)), bits(now.wedges), together, daysTold.size(), felt.size(), said.size(),
             past.size(), tape.length()};
         return what >= 0 && what < answers.length ? answers[what] : -1;
     }
