@@ -1,6 +1,7 @@
 /** Counts the answers that are not as due, and tells houses by text. */
 final class Check {
     private final String name;
+    private String sentence = "";
     private int calls;
     private int wrong;
 
@@ -8,11 +9,16 @@ final class Check {
         this.name = name;
     }
 
+    /** The document's sentence that the next answers hold: SentencesTest looks it up there. */
+    void says(String words) {
+        sentence = " <" + words + ">";
+    }
+
     void due(String what, long got, long want) {
         calls++;
         if (got != want) {
             wrong++;
-            System.out.println(name + ": " + what + " answered " + got + ", due is " + want);
+            System.out.println(name + sentence + ": " + what + " answered " + got + ", due is " + want);
         }
     }
 
@@ -57,6 +63,13 @@ final class Check {
     SwollenHouse told(String text) {
         SwollenHouse x = new SwollenHouse();
         due("house of " + text, house(x, text), 0);
+        return x;
+    }
+
+    /** A new object with a house and days that must be without fault. */
+    SwollenHouse told(String text, String lines) {
+        SwollenHouse x = told(text);
+        due("days of " + lines, days(x, lines), 0);
         return x;
     }
 
