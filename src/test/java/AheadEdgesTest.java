@@ -18,6 +18,7 @@ public final class AheadEdgesTest {
         arrivesByForty();
         from();
         both();
+        fullHouse();
         planedDays();
         planedFewest();
         planedAsItCanBe();
@@ -245,6 +246,35 @@ public final class AheadEdgesTest {
         }
         CHECK.due("person 5", x.both(0, 5), -1);
         CHECK.due("person 5", x.both(5, 0), -1);
+    }
+
+    /** Seven rooms in a ring of oaks, a lime across it, which sticks behind a day, and five persons. */
+    private static SwollenHouse full() {
+        return CHECK.told(ROW + "door g a oak gap 12;door a d lime gap 0;person p in a;person q in b;person r in b;"
+            + "person s in g;person t in e;damp 9;");
+    }
+
+    private static void fullHouse() {
+        CHECK.says("(DAYS going by, nothing else being done.)");
+        SwollenHouse x = full();
+        CHECK.due("later", x.later(7, 60), 30);
+        CHECK.due("the lime closes", x.closes(7), 1);
+        CHECK.due("an oak closes", x.closes(6), 13);
+        CHECK.due("the lime gives", x.gives(7), 0);
+        CHECK.due("calm", x.calm(), 0);
+        CHECK.due("all eight stick", x.hard(), 13);
+        CHECK.due("by the lime", x.arrives(0, 4), 2);
+        CHECK.due("too late for the lime", x.arrives(1, 3), 2);
+        CHECK.due("from a, c, d, e, f, g", x.from(4, 2), 125);
+        CHECK.due("both by the lime", x.both(0, 4), 1);
+        CHECK.due("said", x.say(4, 2), true);
+        CHECK.due("p, s and t", x.who(), 25);
+        CHECK.due("three oaks are too few", x.planed(13, -1), -2);
+        for (int i = 0; i < 14; i++) {
+            x.day();
+        }
+        CHECK.due("never", x.calm(), -1);
+        CHECK.due("t is there, and nobody else comes", x.who(), 16);
     }
 
     private static void row(SwollenHouse x, int days, int... row) {

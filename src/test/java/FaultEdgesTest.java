@@ -10,6 +10,7 @@ public final class FaultEdgesTest {
         theFirstFromTheLeft();
         theLeast();
         one();
+        oneOfAnotherLine();
         two();
         three();
         four();
@@ -91,6 +92,38 @@ public final class FaultEdgesTest {
             CHECK.due("days <" + text + ">", days(text), 1);
             CHECK.due("days <day;" + text + ">", days("day;" + text), 1 + 16 * 4);
             CHECK.due("days <day " + text + ">", days("day " + text.replace(";", "<")), 1 + 16 * 4);
+        }
+    }
+
+    private static void oneOfAnotherLine() {
+        CHECK.says("can't stand there");
+        // What begins a line can't stand where the one before it has not ended.
+        for (String word : new String[] {"room", "door", "person", "damp", "swells"}) {
+            CHECK.fault("room " + word + " a;", 1, 5);
+            CHECK.fault("room a " + word + " b;", 1, 7);
+            CHECK.fault("room a;room b;door " + word + " a;", 1, 19);
+            CHECK.fault("room a;room b;door a " + word + " b;", 1, 21);
+            CHECK.fault("room a;room b;door a b " + word + " c;", 1, 23);
+            CHECK.fault("room a;room b;door a b oak " + word + " c;", 1, 27);
+            CHECK.fault("room a;room b;door a b oak gap " + word + " c;", 1, 31);
+            CHECK.fault("room a;room b;door a b oak gap 1 " + word + " c;", 1, 33);
+            CHECK.fault("room a;person " + word + " c;", 1, 14);
+            CHECK.fault("room a;person p " + word + " c;", 1, 16);
+            CHECK.fault("room a;person p in " + word + " c;", 1, 19);
+            CHECK.fault("room a;person p in a " + word + " c;", 1, 21);
+            CHECK.fault("damp " + word + " c;", 1, 5);
+            CHECK.fault("damp 1 " + word + " c;", 1, 7);
+            CHECK.fault("swells " + word + " c;", 1, 7);
+            CHECK.fault("swells 1 " + word + " c;", 1, 9);
+            CHECK.fault("swells (1 " + word + " c;", 1, 10);
+        }
+        for (String word : new String[] {"day", "walk", "plane", "wedge", "force"}) {
+            CHECK.due("days", days("day " + word + " 0;"), 1 + 16 * 4);
+            CHECK.due("days", days("walk " + word + " 0;"), 1 + 16 * 5);
+            CHECK.due("days", days("walk p " + word + " 0;"), 1 + 16 * 7);
+            CHECK.due("days", days("walk p 0 " + word + " 0;"), 1 + 16 * 9);
+            CHECK.due("days", days("plane " + word + " 0;"), 1 + 16 * 6);
+            CHECK.due("days", days("wedge 0 " + word + " 0;"), 1 + 16 * 8);
         }
     }
 

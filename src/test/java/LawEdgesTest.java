@@ -20,6 +20,7 @@ public final class LawEdgesTest {
         intsWrap();
         comparedInts();
         withoutSwells();
+        shorterLaw();
         longestLaw();
         CHECK.end();
     }
@@ -289,6 +290,15 @@ public final class LawEdgesTest {
         CHECK.due("and without again", Check.house(x, PAIR + "damp 9;"), 0);
         x.day();
         CHECK.due("1", x.door(0, 4), 1);
+    }
+
+    private static void shorterLaw() {
+        CHECK.says("Without a FAULT a HOUSE is the HOUSE from then on");
+        SwollenHouse x = CHECK.told(PAIR + "damp 9;swells not not not 5;");
+        CHECK.due("a shorter law", Check.house(x, PAIR + "damp 9;swells 5;"), 0);
+        CHECK.due("is all there is", x.later(0, 1), 5);
+        CHECK.due("a longer one with a fault", Check.house(x, PAIR + "damp 9;swells not not not 5"), 1 + 16 * 61);
+        CHECK.due("is none", x.later(0, 1), 5);
     }
 
     private static void longestLaw() {

@@ -148,6 +148,11 @@ public final class RumourEdgesTest {
         // The oak parts 3 from 7 behind each, the pine 5 from 5 behind 30 alone.
         CHECK.due("the better one, though behind 30", CHECK.told("room a;room b;room c;door a b oak gap 0;door b c pine gap 1;"
             + "swells (space = 0) + 2 * (space = 1) * (date = 29);").tries(), 241);
+        // Swollen 4, an elm gives behind two days of 0, and by no other damp.
+        SwollenHouse y = pair("elm", 0, "damp 9;swells 4;");
+        y.day();
+        CHECK.due("from now on", y.tries(), 16);
+        CHECK.due("nothing is done", y.door(0, 4), 4);
         x.feel(3, 1, true);
         CHECK.due("of 5 to 9: 3 by the oak, 4 by the elm", x.tries(), 8);
         x.feel(0, 1, false);

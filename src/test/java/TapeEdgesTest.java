@@ -9,6 +9,7 @@ public final class TapeEdgesTest {
         highestFirst();
         howManyThereAre();
         takenByReading();
+        behindItsEnd();
         asLongAsCanBe();
         blanks();
         words();
@@ -122,6 +123,23 @@ public final class TapeEdgesTest {
         x.mark(0, false);
         x.mark(0, true);
         CHECK.due("nothing else takes it", x.count(12), 4);
+    }
+
+    private static void behindItsEnd() {
+        CHECK.says("it is empty then");
+        SwollenHouse x = new SwollenHouse();
+        CHECK.due("a longer text", Check.house(x, "damp 12"), 4 + 16 * 5);
+        CHECK.due("its last digit is gone", Check.house(x, "damp 1"), 1 + 16 * 6);
+        CHECK.due("a longer text", Check.house(x, "roomy"), 1);
+        CHECK.due("its last letter is gone", Check.house(x, "room"), 1 + 16 * 4);
+        CHECK.due("a longer text", Check.house(x, "room a    %"), 1 + 16 * 10);
+        CHECK.due("its last sign is gone", Check.house(x, "room a;   "), 0);
+        // The end of a full tape is the end of its room, too.
+        CHECK.fault(" ".repeat(994) + "damp 1", 1, 1000);
+        CHECK.fault(" ".repeat(996) + "room", 1, 1000);
+        CHECK.fault(" ".repeat(994) + "room  ", 1, 1000);
+        CHECK.fault(" ".repeat(995) + "swell", 1, 995);
+        CHECK.due("days", Check.days(new SwollenHouse(), " ".repeat(993) + "plane 1"), 1 + 16 * 1000);
     }
 
     private static void asLongAsCanBe() {

@@ -23,6 +23,7 @@ public final class TodayEdgesTest {
         worst();
         spared();
         opened();
+        openedOfEight();
         openedEqual();
         deep();
         alone();
@@ -292,6 +293,15 @@ public final class TodayEdgesTest {
         CHECK.due("it has one", z.opened(), -1);
         z.wedge(0);
         CHECK.due("it had one", z.opened(), 0);
+    }
+
+    private static void openedOfEight() {
+        CHECK.says("OPENED: the DOOR that STICKS by whose wedge");
+        SwollenHouse x = behindADay(STAR + "person p in b;person q in d;person r in d;person s in e;person t in f;damp 9;");
+        CHECK.due("all stick", x.count(5), 255);
+        CHECK.due("the last of eight", x.opened(), 7);
+        SwollenHouse y = CHECK.told(STAR + FIVE);
+        CHECK.due("none of eight sticks", y.opened(), -1);
     }
 
     private static void openedEqual() {
